@@ -397,6 +397,7 @@ public final class PromisesTest {
         due.is("12 empty", x.behind(0, 2, 0), -6);
         due.is("12 empty", x.behind(1, 0, 1), -6);
         due.is("12 now", x.state(0, 0, 0), -6);
+        due.is("12 colder than its place is less", coldPlace().behind(0, 1, 1), 5);
         due.is("12 the front one goes", padOf(x, "0a0d0-").behind(0, 0, 0), 0);
         due.is("12 the front one went", x.behind(0, 1, 0), -6);
         due.is("12 its place is used again", padOf(x, "0a0d.0-0a").behind(0, 1, 1), 0);
@@ -414,6 +415,17 @@ public final class PromisesTest {
             due.is("12 wild", x.behind(0, wild, wild), -1);
             due.is("12 wild", x.behind(0, 0, wild), -2);
         }
+    }
+
+    /** 14 hot with 9 less in place 1: 5 in the first minute, then nothing. */
+    private static BrickOven coldPlace() {
+        BrickOven x = new BrickOven();
+        x.set(0, 14);
+        x.set(1, 7);
+        x.less(1, 9);
+        x.sort(0, 1, 0, 0);
+        sayAll(x, "0a0a:");
+        return x;
     }
 
     private static void p13Done() {
@@ -526,6 +538,22 @@ public final class PromisesTest {
         due.is("16 from the day before, again", padOf(x, "0-.0b").spoilt(), 2);
         x.apart(1, 0, false);
         due.is("16 may again", padOf(x, ".").spoilt(), -6);
+        p16LastRow();
+    }
+
+    private static void p16LastRow() {
+        BrickOven x = new BrickOven();
+        x.oven(4, 6);
+        x.sort(5, 1, 0, 0);
+        x.apart(5, 5, true);
+        due.is("16 the last two rows", padOf(x, "3f2f").spoilt(), 1);
+        due.is("16 the first and the last", padOf(x, "3f0f").spoilt(), -6);
+        x.sort(0, 1, 0, 0);
+        due.is("16 at the mouth", padOf(x, "3a3a3a3a3a2a2a2a2a2a2f3f").spoilt(), 11);
+        due.is("16 a mouth is not beside the next back", padOf(x, "0a0a0a0a0a0f1f").spoilt(), -6);
+        padOf(x, "0f0a3f").done();
+        x.oven(2, 2);
+        due.is("16 loaves that went", padOf(x, ".1f").spoilt(), -6);
     }
 
     private static void p17Ripe() {
@@ -628,6 +656,8 @@ public final class PromisesTest {
         }
         x.set(1, 0);
         due.is("19 as hot then", x.still(999) & 1, 1);
+        x.oven(1, 1);
+        due.is("19 one place", x.still(0) & 1, 1);
     }
 
     private static void p20Orders() {
@@ -652,8 +682,24 @@ public final class PromisesTest {
         due.is("20 all different", x.orders(123, 0), 6);
         due.is("20 all of six", x.orders(123123, 0), 90);
         due.is("20 soonest", x.orders(123123, 2), 3);
+        p20AllOfSix();
         p20Soonest();
         p20Edges(x);
+    }
+
+    private static void p20AllOfSix() {
+        BrickOven x = steady(10);
+        x.oven(1, 6);
+        for (int sort = 0; sort < 6; sort++) {
+            x.sort(sort, 10 + sort, 400, 1);
+        }
+        due.is("20 every order of six", x.orders(654321, 0), 720);
+        due.is("20 the least of them", x.orders(654321, 1), 123456);
+        x.sort(0, 10, 0, 1);
+        due.is("20 one sort only at the mouth", x.orders(123456, 0), 120);
+        due.is("20 one sort only at the mouth", x.orders(123456, 1), 234561);
+        x.sort(0, 20, 0, 1);
+        due.is("20 one sort anywhere, behind two minutes", x.orders(123456, 0), 720);
     }
 
     /** Two orders that can be, of which the lesser is the later. */
@@ -707,6 +753,10 @@ public final class PromisesTest {
         check21(x, 3, 0, 0, 0);
         check21(x, 34, 0, 0, 0);
         check21(x, 314, 3, 0, 1);
+        x.sort(1, 10, 0, 3);
+        check21(x, 112, 9, 1, 12);
+        check21(x, 222, 9, 2, 22);
+        x.sort(1, 20, 0, 5);
         x.oven(2, 1);
         check21(x, 1122, 10, 2, 2);
         check21(x, 121, 8, 1, 2);
@@ -726,6 +776,18 @@ public final class PromisesTest {
             due.is("21 wild", x.two(wild, 0), -2);
             due.is("21 wild", x.two(1, wild), -2);
         }
+        p21LeastOfRowZero();
+    }
+
+    /** Only a and b can share a row, a behind b: row 0 is the lesser number, not that of the lesser sorts. */
+    private static void p21LeastOfRowZero() {
+        BrickOven x = steady(10);
+        x.oven(2, 2);
+        x.less(1, 3);
+        x.sort(0, 20, 0, 1);
+        x.sort(1, 14, 0, 1);
+        x.sort(2, 10, 0, 1);
+        check21(x, 123, 3, 3, 12);
     }
 
     private static void check21(BrickOven x, int loaves, int most, int zero, int one) {
@@ -753,6 +815,10 @@ public final class PromisesTest {
         x.less(3, 9);
         due.is("22 less in all places", x.warm(1), 19);
         due.is("22 too many", x.warm(11111), -6);
+        due.is("22 as many as places", x.warm(1111), 19);
+        // 90, 81 and so on to 9: all heat that 99 has in a place of 9 less
+        x.sort(4, 495, 0, 1);
+        due.is("22 as hot as can be", x.warm(5), 99);
         due.is("22 no such", x.warm(12), -6);
         due.is("22 UNKNOWN", x.warm(4), -1);
         due.is("22 UNKNOWN", x.warm(10), -1);
@@ -891,6 +957,7 @@ public final class PromisesTest {
         x.less(3, 9);
         x.sort(5, 90, 0, 1);
         due.is("27 less", x.winds(5, 3, 9, 1, 0), 1);
+        p27Cold();
         p27Refused(x);
         p27Exact();
     }
@@ -898,6 +965,28 @@ public final class PromisesTest {
     private static void checkWinds(BrickOven x, int sort, int t, int m, long upper, long lower) {
         due.is("27 winds upper " + sort + " " + t + " " + m, x.winds(sort, 0, t, m, 0), upper);
         due.is("27 winds lower " + sort + " " + t + " " + m, x.winds(sort, 0, t, m, 1), lower);
+    }
+
+    /** 20, then 13 or 8, then 6 or 1 or 1 or 0, of each 9 less. */
+    private static void p27Cold() {
+        BrickOven x = new BrickOven();
+        x.set(0, 20);
+        x.set(1, 7);
+        x.set(2, 5);
+        x.less(0, 9);
+        x.sort(0, 11, 0, 1);
+        x.sort(1, 15, 0, 1);
+        checkWinds(x, 0, 2, 3, 1, 5);
+        checkWinds(x, 1, 2, 3, 4, 5);
+        x.less(0, 0);
+        x.sort(0, 29, 0, 1);
+        x.sort(1, 34, 0, 1);
+        x.sort(2, 39, 0, 1);
+        checkWinds(x, 0, 2, 3, 4, 25);
+        checkWinds(x, 1, 2, 3, 4, 25);
+        checkWinds(x, 2, 2, 3, 16, 25);
+        x.sort(3, 28, 0, 1);
+        checkWinds(x, 3, 2, 4, 1, 25);
     }
 
     private static void p27Refused(BrickOven x) {
@@ -952,6 +1041,8 @@ public final class PromisesTest {
         due.is("28 its worth", y.year(0, 1, 3), 9);
         y.sort(2, 20, 0, 9);
         due.is("28 two minutes", y.year(0, 1, 1), 1);
+        y.oven(1, 1);
+        due.is("28 one place", y.year(0, 1, 1), 1);
         due.is("28 nothing of sorts that are not", new BrickOven().year(5, 99, 0), 0);
         due.is("28 the oven stays", y.told(3), 10);
         int[][] wrong = {{-1, 1, 0}, {10000, 1, 0}, {0, 0, 0}, {0, 100, 0}, {0, 1, -1}, {0, 1, 4}};
@@ -1015,11 +1106,13 @@ public final class PromisesTest {
         x.sort(0, 70, 20, 4);
         x.sort(3, 500, 20, 4);
         x.apart(0, 3, true);
-        x.seen(77);
+        x.seen(80);
         padOf(x, "0a0d.0-0d2a").done();
+        x.seen(75);
         padOf(x, "0a:");
         long before = fingerprint(x);
         due.is("30 image", x.image(1), 1);
+        due.is("30 stood", x.stood(1, 0), 1);
         x.oven(1, 2);
         x.set(0, 1);
         x.set(1, 0);
@@ -1038,6 +1131,7 @@ public final class PromisesTest {
         due.is("30 the door", x.told(8), 1);
         due.is("30 the two rows' heat", x.heat(), 80 - 2 - 3 - 2 - 3 - 2);
         padOf(x, "0a:");
+        due.is("30 stood", x.stood(1, 0), 1);
         due.is("30 all as it was", fingerprint(x), before);
         due.is("30 a second time", x.restore(1), 1);
         due.is("30 sort 5 went", x.told(70), -2);
