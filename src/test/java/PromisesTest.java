@@ -1,7 +1,7 @@
 /** Each promise of the document: ordinary inputs, the edges that it names, wrong inputs. */
 public final class PromisesTest {
-    private static final int MIN = Integer.MIN_VALUE;
-    private static final int MAX = Integer.MAX_VALUE;
+    private static final int MIN = Ovens.MIN;
+    private static final int MAX = Ovens.MAX;
     private static final int[] WILD = {MIN, MIN + 1, -1000, MAX - 1, MAX};
     private static final Due due = new Due("PromisesTest");
 
@@ -41,27 +41,6 @@ public final class PromisesTest {
         due.end();
     }
 
-    private static void sayAll(BrickOven x, String text) {
-        for (int i = 0; i < text.length(); i++) {
-            x.say(text.charAt(i));
-        }
-    }
-
-    private static BrickOven padOf(BrickOven x, String text) {
-        x.wipe();
-        sayAll(x, text);
-        return x;
-    }
-
-    /** An oven that neither cools nor feels its door. */
-    private static BrickOven steady(int heat) {
-        BrickOven x = new BrickOven();
-        x.set(0, heat);
-        x.set(1, 0);
-        x.set(2, 0);
-        return x;
-    }
-
     private static void p01NewObject() {
         BrickOven x = new BrickOven();
         int[] want = {0, 2, 4, 30, 1, 2, 0, 0, 0, -2, 0, 0, 0, 0, -2};
@@ -94,7 +73,68 @@ public final class PromisesTest {
             due.is("2 oven wild", x.oven(3, wild), -2);
         }
         due.is("2 refused changes nothing", x.told(1) * 10 + x.told(2), 11);
+        p02EverySize();
+        p02WhatGoes();
         p02WhatStays();
+    }
+
+    private static void p02EverySize() {
+        for (int rows = 1; rows <= 4; rows++) {
+            for (int places = 1; places <= 6; places++) {
+                BrickOven x = new BrickOven();
+                due.is("2 how many PLACES in all", x.oven(rows, places), rows * places);
+                due.is("2 ROWS", x.told(1), rows);
+                due.is("2 PLACES", x.told(2), places);
+                due.is("2 the last place", x.state(rows - 1, places - 1, 0), -6);
+                due.is("2 no row behind", x.state(rows, 0, 0), -1);
+                due.is("2 no place behind", x.state(0, places, 0), -1);
+            }
+        }
+    }
+
+    /** A full oven of the same size, so that nothing goes by being out of sight. */
+    private static void p02WhatGoes() {
+        BrickOven x = fullOven();
+        for (int i = 0; i < 6; i++) {
+            x.seen(i);
+        }
+        Ovens.padOf(x, "3-3a").done();
+        due.is("2 the same size", x.oven(4, 6), 24);
+        for (int cell = 0; cell < 24; cell++) {
+            due.is("2 the oven is empty", x.state(cell / 6, cell % 6, 0), -6);
+        }
+        for (int place = 0; place < 6; place++) {
+            due.is("2 LESS is 0", x.told(10 + place), 0);
+        }
+        due.is("2 what came out is 0", x.out(0) + x.out(1) + x.out(2) + x.out(3), 0);
+        due.is("2 SIGHTS go", x.stood(0, -1), -2);
+        due.is("2 there is room for a SIGHT", x.seen(1), 1);
+        due.is("2 the door counts as not opened", Ovens.padOf(x, ".").heat(), 49);
+        due.is("2 rows begin at the back again", Ovens.padOf(x, "3a").behind(3, 0, 0), 0);
+    }
+
+    /** 24 loaves of all sorts, put in a minute ago; 50 hot, place p being p less. */
+    private static BrickOven fullOven() {
+        BrickOven x = new BrickOven();
+        x.oven(4, 6);
+        x.set(0, 50);
+        for (int i = 0; i < 6; i++) {
+            x.sort(i, 46, 3, 2);
+            x.less(i, i);
+        }
+        x.wipe();
+        for (int cell = 0; cell < 24; cell++) {
+            Ovens.sayAll(x, cell / 6 + "" + (char) ('a' + sortIn(cell)));
+        }
+        Ovens.sayAll(x, ".");
+        x.done();
+        x.set(0, 50);
+        return x;
+    }
+
+    /** The sort in a cell of the full oven, each row beginning with another one. */
+    private static int sortIn(int cell) {
+        return (cell / 6 + cell) % 6;
     }
 
     private static void p02WhatStays() {
@@ -106,9 +146,9 @@ public final class PromisesTest {
         x.set(2, 4);
         x.less(1, 6);
         x.seen(8);
-        sayAll(x, "0c.0-1c");
+        Ovens.sayAll(x, "0c.0-1c");
         x.done();
-        sayAll(x, "1c1c");
+        Ovens.sayAll(x, "1c1c");
         due.is("2 came out", x.out(1) + x.out(3), 8);
         due.is("2 door", x.told(8), 1);
         due.is("2 refused", x.oven(3, 9), -2);
@@ -178,10 +218,10 @@ public final class PromisesTest {
     }
 
     private static void p04AlikeInAllRows() {
-        BrickOven x = steady(20);
+        BrickOven x = Ovens.steady(20);
         x.sort(0, 1, 0, 0);
         x.less(1, 7);
-        sayAll(x, "0a0a1a1a:");
+        Ovens.sayAll(x, "0a0a1a1a:");
         due.is("4 row 0", x.behind(0, 1, 1), 130);
         due.is("4 row 1", x.behind(1, 1, 1), 130);
         due.is("4 place 0", x.behind(1, 0, 1), 200);
@@ -208,16 +248,27 @@ public final class PromisesTest {
             due.is("5 wild", x.sort(1, 1, 0, wild), -2);
         }
         due.is("5 sorts", x.told(6), 33);
+        p05CountsToSix();
         p05Otherwise();
     }
 
+    private static void p05CountsToSix() {
+        BrickOven x = new BrickOven();
+        for (int sort = 5; sort >= 0; sort--) {
+            due.is("5 one more", x.sort(sort, 1, 0, 0), 6 - sort);
+            due.is("5 the same again", x.sort(sort, 2, 0, 0), 6 - sort);
+        }
+        due.is("5 no seventh", x.sort(6, 1, 0, 0), -1);
+        due.is("5 all", x.told(6), 63);
+    }
+
     private static void p05Otherwise() {
-        BrickOven x = steady(10);
+        BrickOven x = Ovens.steady(10);
         x.sort(1, 10, 0, 5);
-        sayAll(x, "0b.");
+        Ovens.sayAll(x, "0b.");
         x.done();
         x.sort(1, 11, 0, 6);
-        due.is("5 raw now", padOf(x, "0-").judge(2), 1);
+        due.is("5 raw now", Ovens.padOf(x, "0-").judge(2), 1);
         x.sort(1, 9, 0, 6);
         due.is("5 burnt now", x.judge(4), 1);
         x.sort(1, 9, 1, 6);
@@ -274,7 +325,7 @@ public final class PromisesTest {
     private static void p08Wipe() {
         BrickOven x = new BrickOven();
         due.is("8 wipe()", x.wipe(), 0);
-        sayAll(x, "xyz");
+        Ovens.sayAll(x, "xyz");
         due.is("8 wipe()", x.wipe(), 3);
         due.is("8 wipe()", x.wipe(), 0);
         due.is("8 fault()", x.fault(), -6);
@@ -288,9 +339,9 @@ public final class PromisesTest {
         int[] want = {-6, -6, -6, -6, -6, -6, -6, -6, 1, 3, 4, 0, 0, 0, 0,
             0, 1, 1, 1, 1, 1, 5, 2, 1, 0, 2, 0, 1, 0};
         for (int i = 0; i < texts.length; i++) {
-            due.is("9 fault of " + texts[i], padOf(x, texts[i]).fault(), want[i]);
+            due.is("9 fault of " + texts[i], Ovens.padOf(x, texts[i]).fault(), want[i]);
         }
-        padOf(x, "0a1a2a3a");
+        Ovens.padOf(x, "0a1a2a3a");
         due.is("9 two rows", x.fault(), 4);
         x.oven(1, 1);
         due.is("9 one row", x.fault(), 2);
@@ -302,45 +353,45 @@ public final class PromisesTest {
         while (full.length() < 60) {
             full.insert(0, '.');
         }
-        due.is("9 more must come, but the pad is full", padOf(x, full.toString()).fault(), 60);
+        due.is("9 more must come, but the pad is full", Ovens.padOf(x, full.toString()).fault(), 60);
     }
 
     private static void p10Judge() {
-        BrickOven x = steady(10);
+        BrickOven x = Ovens.steady(10);
         x.sort(0, 20, 9, 5);
         x.sort(1, 30, 0, 7);
-        padOf(x, "0a0b.1a.0-0-1-");
+        Ovens.padOf(x, "0a0b.1a.0-0-1-");
         // b: 20 of 30 raw; a: 20 of 20 ripe; a in row 1: 10, raw
         long[] want = {-6, -6, 2, 1, 0, 5};
         for (int what = 0; what < 6; what++) {
             due.is("10 judge(" + what + ")", x.judge(what), want[what]);
         }
-        padOf(x, "0a0b...0-0-");
+        Ovens.padOf(x, "0a0b...0-0-");
         due.is("10 ripe", x.judge(3), 1);
         due.is("10 burnt: 30 are more than 20 and 9", x.judge(4), 1);
         due.is("10 worth", x.judge(5), 7);
-        due.is("10 no sort", padOf(x, ".0c").judge(0), 1);
+        due.is("10 no sort", Ovens.padOf(x, ".0c").judge(0), 1);
         due.is("10 why", x.judge(1), 1);
         due.is("10 STATE", x.judge(2), -3);
         due.is("10 STATE", x.judge(5), -3);
-        due.is("10 empty", padOf(x, "0a.0-1a0-").judge(0), 4);
+        due.is("10 empty", Ovens.padOf(x, "0a.0-1a0-").judge(0), 4);
         due.is("10 why", x.judge(1), 3);
         x.oven(1, 1);
-        due.is("10 full", padOf(x, "0a0a0-").judge(0), 1);
+        due.is("10 full", Ovens.padOf(x, "0a0a0-").judge(0), 1);
         due.is("10 why", x.judge(1), 2);
-        due.is("10 the least reason: no sort, and full", padOf(x, "0a0f").judge(1), 1);
-        due.is("10 without signs", padOf(x, "").judge(0), -6);
+        due.is("10 the least reason: no sort, and full", Ovens.padOf(x, "0a0f").judge(1), 1);
+        due.is("10 without signs", Ovens.padOf(x, "").judge(0), -6);
         due.is("10 without signs", x.judge(1), -6);
         due.is("10 without signs", x.judge(4), 0);
         p10TwoDays();
     }
 
     private static void p10TwoDays() {
-        BrickOven x = steady(10);
+        BrickOven x = Ovens.steady(10);
         x.sort(0, 20, 0, 5);
-        padOf(x, "0a.0-0a..");
+        Ovens.padOf(x, "0a.0-0a..");
         due.is("10 PARTS", x.done(), 6);
-        padOf(x, "0-");
+        Ovens.padOf(x, "0-");
         due.is("10 raw of this day alone", x.judge(2), 0);
         due.is("10 ripe of this day", x.judge(3), 1);
         due.is("10 worth of this day", x.judge(5), 5);
@@ -349,14 +400,14 @@ public final class PromisesTest {
 
     private static void p10JudgeOrderOfRefusals() {
         BrickOven x = new BrickOven();
-        padOf(x, "0a?");
+        Ovens.padOf(x, "0a?");
         for (int wrong : new int[] {-1, 6, MIN, MAX}) {
             due.is("10 OUTSIDE before NO", x.judge(wrong), -2);
         }
         for (int what = 0; what < 6; what++) {
             due.is("10 NO before STATE", x.judge(what), -5);
         }
-        padOf(x, "0a");
+        Ovens.padOf(x, "0a");
         due.is("10 OUTSIDE before STATE", x.judge(6), -2);
     }
 
@@ -364,32 +415,32 @@ public final class PromisesTest {
         BrickOven x = new BrickOven();
         x.sort(0, 1, 0, 0);
         due.is("11 no parts", x.heat(), 30);
-        due.is("11 a minute", padOf(x, ".").heat(), 29);
-        due.is("11 ten", padOf(x, ":").heat(), 20);
-        due.is("11 the door once a minute", padOf(x, "0a1a0-.").heat(), 27);
-        due.is("11 the door in the first of ten", padOf(x, "0a:").heat(), 18);
-        due.is("11 each minute", padOf(x, "0a.0-.").heat(), 24);
-        due.is("11 the door without a minute", padOf(x, "0a").heat(), 30);
-        due.is("11 0 at least", padOf(x, "::::").heat(), 0);
+        due.is("11 a minute", Ovens.padOf(x, ".").heat(), 29);
+        due.is("11 ten", Ovens.padOf(x, ":").heat(), 20);
+        due.is("11 the door once a minute", Ovens.padOf(x, "0a1a0-.").heat(), 27);
+        due.is("11 the door in the first of ten", Ovens.padOf(x, "0a:").heat(), 18);
+        due.is("11 each minute", Ovens.padOf(x, "0a.0-.").heat(), 24);
+        due.is("11 the door without a minute", Ovens.padOf(x, "0a").heat(), 30);
+        due.is("11 0 at least", Ovens.padOf(x, "::::").heat(), 0);
         x.set(0, 2);
-        due.is("11 0 at least, by the door", padOf(x, "0a.").heat(), 0);
+        due.is("11 0 at least, by the door", Ovens.padOf(x, "0a.").heat(), 0);
         due.is("11 now as it was", x.told(3), 2);
-        due.is("11 NO", padOf(x, "0").heat(), -5);
-        due.is("11 STATE", padOf(x, "0b").heat(), -3);
+        due.is("11 NO", Ovens.padOf(x, "0").heat(), -5);
+        due.is("11 STATE", Ovens.padOf(x, "0b").heat(), -3);
         BrickOven y = new BrickOven();
         y.sort(0, 1, 0, 0);
-        padOf(y, "0a").done();
-        due.is("11 the door of the day before", padOf(y, ".").heat(), 27);
-        due.is("11 and then no more", padOf(y, "..").heat(), 26);
+        Ovens.padOf(y, "0a").done();
+        due.is("11 the door of the day before", Ovens.padOf(y, ".").heat(), 27);
+        due.is("11 and then no more", Ovens.padOf(y, "..").heat(), 26);
     }
 
     private static void p12Behind() {
-        BrickOven x = steady(50);
+        BrickOven x = Ovens.steady(50);
         x.set(1, 5);
         x.sort(0, 1, 0, 0);
         x.sort(3, 1, 0, 0);
         x.less(1, 9);
-        padOf(x, "0a0d..");
+        Ovens.padOf(x, "0a0d..");
         due.is("12 sort", x.behind(0, 0, 0), 0);
         due.is("12 sort", x.behind(0, 1, 0), 3);
         due.is("12 baked", x.behind(0, 0, 1), 95);
@@ -398,10 +449,10 @@ public final class PromisesTest {
         due.is("12 empty", x.behind(1, 0, 1), -6);
         due.is("12 now", x.state(0, 0, 0), -6);
         due.is("12 colder than its place is less", coldPlace().behind(0, 1, 1), 5);
-        due.is("12 the front one goes", padOf(x, "0a0d0-").behind(0, 0, 0), 0);
+        due.is("12 the front one goes", Ovens.padOf(x, "0a0d0-").behind(0, 0, 0), 0);
         due.is("12 the front one went", x.behind(0, 1, 0), -6);
-        due.is("12 its place is used again", padOf(x, "0a0d.0-0a").behind(0, 1, 1), 0);
-        padOf(x, "0");
+        due.is("12 its place is used again", Ovens.padOf(x, "0a0d.0-0a").behind(0, 1, 1), 0);
+        Ovens.padOf(x, "0");
         due.is("12 UNKNOWN row", x.behind(2, 0, 7), -1);
         due.is("12 UNKNOWN row", x.behind(-1, 0, 0), -1);
         due.is("12 UNKNOWN place", x.behind(0, 4, 7), -1);
@@ -409,7 +460,7 @@ public final class PromisesTest {
         due.is("12 OUTSIDE", x.behind(0, 0, 2), -2);
         due.is("12 OUTSIDE", x.behind(0, 0, -1), -2);
         due.is("12 NO", x.behind(0, 0, 1), -5);
-        due.is("12 STATE", padOf(x, "0-").behind(0, 0, 1), -3);
+        due.is("12 STATE", Ovens.padOf(x, "0-").behind(0, 0, 1), -3);
         for (int wild : WILD) {
             due.is("12 wild", x.behind(wild, 0, wild), -1);
             due.is("12 wild", x.behind(0, wild, wild), -1);
@@ -424,7 +475,7 @@ public final class PromisesTest {
         x.set(1, 7);
         x.less(1, 9);
         x.sort(0, 1, 0, 0);
-        sayAll(x, "0a0a:");
+        Ovens.sayAll(x, "0a0a:");
         return x;
     }
 
@@ -432,7 +483,7 @@ public final class PromisesTest {
         BrickOven x = new BrickOven();
         x.sort(0, 40, 30, 9);
         due.is("13 no parts", x.done(), 0);
-        padOf(x, "0a.1a:0-");
+        Ovens.padOf(x, "0a.1a:0-");
         due.is("13 parts", x.done(), 5);
         due.is("13 the pad is empty", x.told(0), 0);
         due.is("13 heat", x.told(3), 30 - 1 - 2 - 10 - 2);
@@ -441,24 +492,48 @@ public final class PromisesTest {
         due.is("13 row 1", x.state(1, 0, 0), 0);
         due.is("13 baked: 27, then 24 and so on", x.state(1, 0, 1), 27 + 24 + 23 + 22 + 21 + 20 + 19 + 18 + 17 + 16);
         due.is("13 burnt", x.out(2), 1);
-        padOf(x, "1");
+        Ovens.padOf(x, "1");
         due.is("13 NO", x.done(), -5);
-        padOf(x, "1-1-");
+        Ovens.padOf(x, "1-1-");
         due.is("13 STATE", x.done(), -3);
         due.is("13 nothing changed", x.state(1, 0, 0), 0);
         due.is("13 the pad stays", x.told(0), 4);
         due.is("13 out stays", x.out(2), 1);
-        due.is("13 a minute", padOf(x, ".").done(), 1);
+        due.is("13 a minute", Ovens.padOf(x, ".").done(), 1);
         due.is("13 the door is shut", x.told(8), 0);
         due.is("13 heat", x.told(3), 12);
+        p13FullOven();
+    }
+
+    /** Every place of the greatest oven, baked by as much as it is hot there, and all taken again. */
+    private static void p13FullOven() {
+        BrickOven x = fullOven();
+        for (int cell = 0; cell < 24; cell++) {
+            due.is("13 sort in " + cell, x.state(cell / 6, cell % 6, 0), sortIn(cell));
+            due.is("13 baked in " + cell, x.state(cell / 6, cell % 6, 1), 50 - cell % 6);
+        }
+        for (int row = 0; row < 4; row++) {
+            due.is("13 full", Ovens.padOf(x, row + "a").judge(1), 2);
+        }
+        Ovens.padOf(x, "3-".repeat(6) + "2-".repeat(6) + "1-".repeat(6) + "0-".repeat(6));
+        // 45 is raw, 46 to 49 are ripe, 50 is burnt
+        due.is("13 raw", x.judge(2), 4);
+        due.is("13 PARTS", x.done(), 24);
+        due.is("13 came out raw", x.out(0), 4);
+        due.is("13 came out ripe", x.out(1), 16);
+        due.is("13 came out burnt", x.out(2), 4);
+        due.is("13 worth", x.out(3), 32);
+        for (int row = 0; row < 4; row++) {
+            due.is("13 empty", Ovens.padOf(x, row + "-").judge(1), 3);
+        }
     }
 
     private static void p14Out() {
-        BrickOven x = steady(10);
+        BrickOven x = Ovens.steady(10);
         x.sort(0, 20, 10, 9);
         x.sort(1, 20, 10, 30);
-        padOf(x, "0a.0-1a..1-").done();
-        padOf(x, "0b..0-1a:1-0b..0-").done();
+        Ovens.padOf(x, "0a.0-1a..1-").done();
+        Ovens.padOf(x, "0b..0-1a:1-0b..0-").done();
         due.is("14 raw", x.out(0), 1);
         due.is("14 ripe", x.out(1), 3);
         due.is("14 burnt", x.out(2), 1);
@@ -476,9 +551,9 @@ public final class PromisesTest {
         int[] needs = {20, 20, 31, 30};
         int[] want = {2, 1, 0, 1};
         for (int i = 0; i < 4; i++) {
-            BrickOven x = steady(10);
+            BrickOven x = Ovens.steady(10);
             x.sort(0, needs[i], bears[i], 1);
-            padOf(x, "0a...0-").done();
+            Ovens.padOf(x, "0a...0-").done();
             for (int what = 0; what < 3; what++) {
                 due.is("14 edge " + i, x.out(what), what == want[i] ? 1 : 0);
             }
@@ -486,10 +561,10 @@ public final class PromisesTest {
     }
 
     private static void p15State() {
-        BrickOven x = steady(7);
+        BrickOven x = Ovens.steady(7);
         x.sort(4, 1, 0, 0);
-        padOf(x, "1e1e...").done();
-        padOf(x, "1-0e");
+        Ovens.padOf(x, "1e1e...").done();
+        Ovens.padOf(x, "1-0e");
         due.is("15 sort", x.state(1, 1, 0), 4);
         due.is("15 baked", x.state(1, 1, 1), 21);
         due.is("15 empty", x.state(0, 0, 0), -6);
@@ -501,7 +576,7 @@ public final class PromisesTest {
         due.is("15 UNKNOWN", x.state(0, -1, 0), -1);
         due.is("15 OUTSIDE", x.state(0, 0, 2), -2);
         due.is("15 OUTSIDE", x.state(0, 0, -1), -2);
-        padOf(x, "?");
+        Ovens.padOf(x, "?");
         due.is("15 whatever the pad holds", x.state(1, 0, 1), 21);
         for (int wild : WILD) {
             due.is("15 wild", x.state(wild, 0, 0), -1);
@@ -518,26 +593,26 @@ public final class PromisesTest {
         }
         x.apart(0, 1, true);
         x.apart(2, 2, true);
-        due.is("16 in one row", padOf(x, "0a..0b").spoilt(), 3);
-        due.is("16 in one row, the other way", padOf(x, "0b0a").spoilt(), 1);
-        due.is("16 two places apart", padOf(x, "0a0c0b").spoilt(), -6);
-        due.is("16 rows side by side", padOf(x, "1a:2b").spoilt(), 2);
-        due.is("16 rows side by side", padOf(x, "1a0b").spoilt(), 1);
-        due.is("16 rows two apart", padOf(x, "0a2b").spoilt(), -6);
-        due.is("16 across a corner", padOf(x, "0a1c1b").spoilt(), -6);
-        due.is("16 one sort", padOf(x, "0c1c").spoilt(), 1);
-        due.is("16 one sort that may", padOf(x, "0a1a").spoilt(), -6);
-        due.is("16 by what was taken it is not", padOf(x, "0a0-0b").spoilt(), -6);
-        due.is("16 no parts", padOf(x, "").spoilt(), -6);
-        due.is("16 NO", padOf(x, "0a0").spoilt(), -5);
-        due.is("16 STATE", padOf(x, "0a0b0d").spoilt(), -3);
-        padOf(x, "0a0b").done();
+        due.is("16 in one row", Ovens.padOf(x, "0a..0b").spoilt(), 3);
+        due.is("16 in one row, the other way", Ovens.padOf(x, "0b0a").spoilt(), 1);
+        due.is("16 two places apart", Ovens.padOf(x, "0a0c0b").spoilt(), -6);
+        due.is("16 rows side by side", Ovens.padOf(x, "1a:2b").spoilt(), 2);
+        due.is("16 rows side by side", Ovens.padOf(x, "1a0b").spoilt(), 1);
+        due.is("16 rows two apart", Ovens.padOf(x, "0a2b").spoilt(), -6);
+        due.is("16 across a corner", Ovens.padOf(x, "0a1c1b").spoilt(), -6);
+        due.is("16 one sort", Ovens.padOf(x, "0c1c").spoilt(), 1);
+        due.is("16 one sort that may", Ovens.padOf(x, "0a1a").spoilt(), -6);
+        due.is("16 by what was taken it is not", Ovens.padOf(x, "0a0-0b").spoilt(), -6);
+        due.is("16 no parts", Ovens.padOf(x, "").spoilt(), -6);
+        due.is("16 NO", Ovens.padOf(x, "0a0").spoilt(), -5);
+        due.is("16 STATE", Ovens.padOf(x, "0a0b0d").spoilt(), -3);
+        Ovens.padOf(x, "0a0b").done();
         due.is("16 no parts, but they stand so", x.spoilt(), -6);
-        due.is("16 from the day before", padOf(x, ".").spoilt(), 0);
-        due.is("16 from the day before, taken", padOf(x, "0-.").spoilt(), -6);
-        due.is("16 from the day before, again", padOf(x, "0-.0b").spoilt(), 2);
+        due.is("16 from the day before", Ovens.padOf(x, ".").spoilt(), 0);
+        due.is("16 from the day before, taken", Ovens.padOf(x, "0-.").spoilt(), -6);
+        due.is("16 from the day before, again", Ovens.padOf(x, "0-.0b").spoilt(), 2);
         x.apart(1, 0, false);
-        due.is("16 may again", padOf(x, ".").spoilt(), -6);
+        due.is("16 may again", Ovens.padOf(x, ".").spoilt(), -6);
         p16LastRow();
     }
 
@@ -546,14 +621,14 @@ public final class PromisesTest {
         x.oven(4, 6);
         x.sort(5, 1, 0, 0);
         x.apart(5, 5, true);
-        due.is("16 the last two rows", padOf(x, "3f2f").spoilt(), 1);
-        due.is("16 the first and the last", padOf(x, "3f0f").spoilt(), -6);
+        due.is("16 the last two rows", Ovens.padOf(x, "3f2f").spoilt(), 1);
+        due.is("16 the first and the last", Ovens.padOf(x, "3f0f").spoilt(), -6);
         x.sort(0, 1, 0, 0);
-        due.is("16 at the mouth", padOf(x, "3a3a3a3a3a2a2a2a2a2a2f3f").spoilt(), 11);
-        due.is("16 a mouth is not beside the next back", padOf(x, "0a0a0a0a0a0f1f").spoilt(), -6);
-        padOf(x, "0f0a3f").done();
+        due.is("16 at the mouth", Ovens.padOf(x, "3a3a3a3a3a2a2a2a2a2a2f3f").spoilt(), 11);
+        due.is("16 a mouth is not beside the next back", Ovens.padOf(x, "0a0a0a0a0a0f1f").spoilt(), -6);
+        Ovens.padOf(x, "0f0a3f").done();
         x.oven(2, 2);
-        due.is("16 loaves that went", padOf(x, ".1f").spoilt(), -6);
+        due.is("16 loaves that went", Ovens.padOf(x, ".1f").spoilt(), -6);
     }
 
     private static void p17Ripe() {
@@ -572,7 +647,7 @@ public final class PromisesTest {
         due.is("17 cold then", x.ripe(2, 0, 1), 999);
         x.sort(2, 466, 0, 1);
         due.is("17 never", x.ripe(2, 0, 0), -6);
-        BrickOven y = steady(1);
+        BrickOven y = Ovens.steady(1);
         y.sort(0, 500, 499, 1);
         due.is("17 to 999", y.ripe(0, 0, 0), 500);
         due.is("17 to 999", y.ripe(0, 0, 1), 999);
@@ -599,7 +674,7 @@ public final class PromisesTest {
         x.set(1, 0);
         x.set(2, 9);
         x.sort(0, 60, 0, 1);
-        padOf(x, "0a").done();
+        Ovens.padOf(x, "0a").done();
         due.is("17 door opened before", x.told(8), 1);
         due.is("17 the door costs nothing", x.ripe(0, 0, 0), 2);
         due.is("17 the oven is taken as empty", x.orders(1111, 0), 1);
@@ -661,7 +736,7 @@ public final class PromisesTest {
     }
 
     private static void p20Orders() {
-        BrickOven x = steady(10);
+        BrickOven x = Ovens.steady(10);
         x.oven(1, 6);
         x.sort(0, 10, 0, 1);
         x.sort(1, 20, 0, 1);
@@ -688,7 +763,7 @@ public final class PromisesTest {
     }
 
     private static void p20AllOfSix() {
-        BrickOven x = steady(10);
+        BrickOven x = Ovens.steady(10);
         x.oven(1, 6);
         for (int sort = 0; sort < 6; sort++) {
             x.sort(sort, 10 + sort, 400, 1);
@@ -704,7 +779,7 @@ public final class PromisesTest {
 
     /** Two orders that can be, of which the lesser is the later. */
     private static void p20Soonest() {
-        BrickOven x = steady(20);
+        BrickOven x = Ovens.steady(20);
         x.less(1, 9);
         x.sort(0, 20, 500, 1);
         x.sort(1, 60, 500, 1);
@@ -739,7 +814,7 @@ public final class PromisesTest {
     }
 
     private static void p21Two() {
-        BrickOven x = steady(10);
+        BrickOven x = Ovens.steady(10);
         x.oven(2, 2);
         x.sort(0, 10, 0, 3);
         x.sort(1, 20, 0, 5);
@@ -781,7 +856,7 @@ public final class PromisesTest {
 
     /** Only a and b can share a row, a behind b: row 0 is the lesser number, not that of the lesser sorts. */
     private static void p21LeastOfRowZero() {
-        BrickOven x = steady(10);
+        BrickOven x = Ovens.steady(10);
         x.oven(2, 2);
         x.less(1, 3);
         x.sort(0, 20, 0, 1);
@@ -797,7 +872,7 @@ public final class PromisesTest {
     }
 
     private static void p22Warm() {
-        BrickOven x = steady(50);
+        BrickOven x = Ovens.steady(50);
         x.sort(0, 10, 0, 1);
         x.sort(1, 97, 1, 1);
         x.sort(2, 500, 0, 1);
@@ -906,7 +981,7 @@ public final class PromisesTest {
     }
 
     private static void p25To99() {
-        BrickOven x = steady(1);
+        BrickOven x = Ovens.steady(1);
         x.seen(99);
         x.seen(100);
         due.is("25 99 minutes", x.stood(0, 0), 99);
@@ -1014,7 +1089,7 @@ public final class PromisesTest {
 
     /** Ten minutes, ripe only if the door is opened in none of the first nine. */
     private static void p27Exact() {
-        BrickOven x = steady(20);
+        BrickOven x = Ovens.steady(20);
         x.set(2, 1);
         x.sort(0, 200, 0, 1);
         due.is("27 nine shut, upper", x.winds(0, 0, 1, 10, 0), 387420489L);
@@ -1025,7 +1100,7 @@ public final class PromisesTest {
     }
 
     private static void p28Year() {
-        BrickOven x = steady(10);
+        BrickOven x = Ovens.steady(10);
         x.less(1, 3);
         x.sort(0, 90, 60, 7);
         x.sort(2, 200, 20, 5);
@@ -1034,7 +1109,7 @@ public final class PromisesTest {
         for (int what = 0; what < 4; what++) {
             due.is("28 year " + what, x.year(4711, 99, what), want[what]);
         }
-        BrickOven y = steady(10);
+        BrickOven y = Ovens.steady(10);
         y.sort(2, 1, 500, 9);
         // x becomes 74: sort 2, place 12 left over by 4, 1 and 1 left over minutes
         due.is("28 one day", y.year(0, 1, 1), 1);
@@ -1107,10 +1182,10 @@ public final class PromisesTest {
         x.sort(3, 500, 20, 4);
         x.apart(0, 3, true);
         x.seen(80);
-        padOf(x, "0a0d.0-0d2a").done();
+        Ovens.padOf(x, "0a0d.0-0d2a").done();
         x.seen(75);
-        padOf(x, "0a:");
-        long before = fingerprint(x);
+        Ovens.padOf(x, "0a:");
+        String before = Ovens.tellAll(x);
         due.is("30 image", x.image(1), 1);
         due.is("30 stood", x.stood(1, 0), 1);
         x.oven(1, 2);
@@ -1124,15 +1199,15 @@ public final class PromisesTest {
         x.apart(5, 1, true);
         x.seen(1);
         x.seen(2);
-        padOf(x, "0a0a:0-").done();
-        sayAll(x, "..");
+        Ovens.padOf(x, "0a0a:0-").done();
+        Ovens.sayAll(x, "..");
         due.is("30 restore", x.restore(1), 1);
         due.is("30 the pad is not of it", x.told(0), 2);
         due.is("30 the door", x.told(8), 1);
         due.is("30 the two rows' heat", x.heat(), 80 - 2 - 3 - 2 - 3 - 2);
-        padOf(x, "0a:");
+        Ovens.padOf(x, "0a:");
         due.is("30 stood", x.stood(1, 0), 1);
-        due.is("30 all as it was", fingerprint(x), before);
+        due.holds("30 all as it was", Ovens.tellAll(x).equals(before));
         due.is("30 a second time", x.restore(1), 1);
         due.is("30 sort 5 went", x.told(70), -2);
         x.sort(5, 9, 9, 9);
@@ -1141,26 +1216,45 @@ public final class PromisesTest {
         for (int wrong : new int[] {-1, 2, MIN, MAX}) {
             due.is("30 OUTSIDE", x.restore(wrong), -2);
         }
+        p30Sights();
+        p30FullOven();
     }
 
-    private static long fingerprint(BrickOven x) {
-        long sum = 17;
-        for (int what = 0; what < 90; what++) {
-            sum = sum * 31 + x.told(what);
+    private static void p30Sights() {
+        BrickOven x = new BrickOven();
+        x.image(0);
+        for (int i = 0; i < 6; i++) {
+            x.seen(30 + i);
         }
-        for (int row = 0; row < 4; row++) {
-            for (int place = 0; place < 6; place++) {
-                sum = sum * 31 + x.state(row, place, 0);
-                sum = sum * 31 + x.state(row, place, 1);
-            }
-        }
-        for (int what = 0; what < 4; what++) {
-            sum = sum * 31 + x.out(what);
-        }
-        for (int sight = 0; sight < 6; sight++) {
-            sum = sum * 31 + x.stood(sight, -1);
-        }
-        return sum * 31 + x.heat();
+        x.image(1);
+        x.restore(0);
+        due.is("30 no SIGHTS", x.told(7), 0);
+        due.is("30 one more", x.seen(4999), 1);
+        x.restore(1);
+        due.is("30 six SIGHTS", x.told(7), 6);
+        due.is("30 full of them", x.seen(1), -4);
+        due.is("30 the first is as it was", x.stood(0, 0), 1);
+        x.forget();
+        x.restore(1);
+        due.is("30 they are not forgotten there", x.forget(), 6);
+    }
+
+    private static void p30FullOven() {
+        BrickOven x = fullOven();
+        String before = Ovens.tellAll(x);
+        x.image(0);
+        due.holds("29 to keep changes nothing", Ovens.tellAll(x).equals(before));
+        x.oven(1, 1);
+        x.restore(0);
+        due.holds("30 all 24 places", Ovens.tellAll(x).equals(before));
+        Ovens.padOf(x, "3-2-.").done();
+        x.restore(0);
+        due.is("30 what was taken stands there", x.state(3, 5, 1), 45);
+        due.is("30 what came out is not out", x.out(0), 0);
+        due.is("30 PARTS", Ovens.padOf(x, ".").done(), 1);
+        due.is("30 it bakes on, 45 and 45", x.state(3, 5, 1), 90);
+        x.restore(0);
+        due.is("30 an image is not changed by what is done then", x.state(3, 5, 1), 45);
     }
 
     private static void p31Told() {
@@ -1192,11 +1286,11 @@ public final class PromisesTest {
         for (int wild : new int[] {-1, -10, -20, 100, MIN, MIN + 9, MIN + 10, MIN + 20, MAX}) {
             due.is("31 told(" + wild + ")", x.told(wild), -2);
         }
-        padOf(x, "0a").done();
+        Ovens.padOf(x, "0a").done();
         due.is("31 the door was opened", x.told(8), 1);
-        padOf(x, ".").done();
+        Ovens.padOf(x, ".").done();
         due.is("31 the door was not", x.told(8), 0);
-        padOf(x, "0-.").done();
+        Ovens.padOf(x, "0-.").done();
         due.is("31 the door was not, since", x.told(8), 0);
     }
 }
